@@ -1105,12 +1105,21 @@ public final class WrackDeeds {
             tour.met[at] |= 1 << hour;
             tour.tried[depth] = strand;
             tour.keepIfBetter(depth + 1, hour);
+            if (!tour.mayGetBetter(depth + 1, hour)) {
+                return;
+            }
             int high = shore.hangings[strand].highs[hour];
             for (int s = 0; s < tour.strands; s++) {
                 if ((now >> s & 1) == 0) {
                     visit(tour, shore, s, shore.nextRead(s, hour + 1, high), now, depth + 1);
                 }
             }
+        }
+
+        /** Each further strand takes an hour at least: that bounds what can still come of a row. */
+        private boolean mayGetBetter(int many, int hour) {
+            int end = many + Math.min(strands - many, LAST_HOUR - hour);
+            return end > size || end == size && hour + size - many < lastHour;
         }
 
         private void keepIfBetter(int many, int hour) {
