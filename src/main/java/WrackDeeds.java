@@ -12,7 +12,8 @@ public final class WrackDeeds {
     private static final int GONE = 4, MOST_SAVED = 2;
     private static final int SHEETS = 4, FORMS = 3, ITEMS = 60, EVENT_ITEMS = 4;
     private static final int NULL = 1, INDEX = 2, CAST = 3, STORE = 4, SIZE = 5;
-    private static final long BAD_LONG = Long.MIN_VALUE - BAD;
+    private static final int LEAST_INT = 1 << 31;
+    private static final long BAD_LONG = (1L << 63) - BAD;
 
     private final Text strandText, tideText, routeText;
     private final Deeds deeds;
@@ -436,13 +437,13 @@ public final class WrackDeeds {
 
     public int get(int s, int form, int i) {
         if (!within(s, SHEETS) || !within(form, FORMS)) {
-            return Integer.MIN_VALUE;
+            return LEAST_INT;
         }
         Sheet sheet = sheets[s];
         int wrong = itemFinding(sheet, form, i);
         if (wrong != 0) {
             latestFinding = wrong;
-            return Integer.MIN_VALUE;
+            return LEAST_INT;
         }
         return sheet.items[i];
     }

@@ -97,6 +97,8 @@ public final class FaceTest {
         }
         look(!code.contains("->") && !code.contains("::"), "no lambda, no method reference");
         look(code.replaceAll("(?s)[^\n]*\\bimport java\\.util\\.Arrays;", "").indexOf("import") < 0, "no import but Arrays");
+        String library = code.replaceAll("\\b(Math\\.(min|max|abs)|Integer\\.bitCount|Arrays\\.fill|System\\.arraycopy|java\\.util\\.Arrays)\\b", "");
+        look(!library.matches("(?s).*\\b(Math|Integer|Long|Short|Byte|Character|Arrays|System|String|List|java)\\..*"), "of the library only what LANGUAGE.md lists and the class uses so far");
         int begun = -1, line = 0;
         for (String s : all.split("\n")) {
             line++;

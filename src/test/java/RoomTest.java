@@ -22,7 +22,7 @@ public final class RoomTest {
         for (int i = 0; i < strands.length(); i++) sum += x.type(0, strands.charAt(i));
         for (int h = 0; h < 20; h++) sum += x.type(1, '3' + h % 4);
         for (int i = 0; i < 8; i++) sum += x.type(2, route.charAt(i));
-        for (int k = 0; k < 100; k++) {
+        for (int k = 0; k < 45; k++) {
             sum += x.event(k % 3, k % 20, k % 8, k % 10);
             sum += x.seen(k % 20, k % 8, 1);
             sum += x.sheet(k % 4, k % 3, k % 61);
