@@ -70,6 +70,9 @@ public final class PlanBoundsTest {
         tourOf(made("5wa;9wb", Cases.times("5", 19) + "9", ""), 19, 0, 1);
         c.sentence(19, "of like ones the one of which the last is READ soonest: not the least row");
         tourOf(made("5wa;3wb;4wc", "", ""), 4, 0, 2, 1);
+        // Row 0, 1, 3 is an hour sooner, and sets out for 2 while it is still at 5, to wait there in vain.
+        c.sentence(19, "of like ones the one of which the last is READ soonest: also by coming to another one later");
+        tourOf(with(made("3wa;4wa;5wa;4wa", "", ""), 2, 5, 2, 4), 5, 1, 0, 3, 2);
         c.sentence(19, "of like ones the least row: the first differs");
         tourOf(made("5wa;5wb", "", ""), 1, 0, 1);
         tourOf(made("4wa;5wb;3wc", "", ""), 4, 1, 0, 2);
