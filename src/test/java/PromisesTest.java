@@ -888,55 +888,9 @@ public final class PromisesTest {
         x.event(1, 6, 1, 0);
         x.event(0, 0, 0, 0);
         x.seen(0, 0, 1);
-        due("of some", x.digest(), byCalls(x));
-        due("again: it changes nothing", x.digest(), byCalls(x));
+        due("of some", x.digest(), DigestByCalls.of(x));
+        due("again: it changes nothing", x.digest(), DigestByCalls.of(x));
         x.lose(0);
-        due("a finding is not in it", x.digest(), byCalls(x));
-    }
-
-    private static long h;
-    private static void add(long v) { h = 31 * h + v; }
-    private static long byCalls(WrackDeeds x) {
-        h = 17;
-        for (int k = 0; k <= 7; k++) add(x.count(k));
-        for (int k = 0; k < 3; k++) add(x.fault(k));
-        for (int k = 0; k < 20; k++) add(x.tide(k));
-        for (int s = 0; s < x.count(0); s++) {
-            for (int k = 0; k <= 8; k++) add(x.strand(s, k));
-            for (int hour : new int[] {0, 6, 12, 19}) {
-                add(x.state(hour, s, 0));
-                add(x.state(hour, s, 1));
-                add(x.says(hour, s, 0));
-                add(x.fill(hour, s, NONE));
-                add(x.fill(hour, s, 0));
-            }
-            add(x.deed(s, 0));
-            add(x.deed(s, 1));
-            add(x.save(s, NONE));
-            add(x.save(s, 0));
-            add(x.was(s, 0));
-            add(x.was(s, 1));
-            add(x.ask(s));
-            add(x.risk(5, s, 15, 0));
-            add(x.risk(5, s, 15, 1));
-        }
-        for (int k = 0; k <= 7; k++) {
-            add(x.route(k));
-            add(x.reads(k));
-        }
-        add(x.voids(5));
-        add(x.voids(19));
-        add(x.forged());
-        add(x.tangled(0));
-        add(x.tangled(1));
-        for (int k = 0; k <= 3; k++) add(x.tour(k));
-        for (int k = 0; k < 3; k++) {
-            add(x.hang(k, 0));
-            add(x.hang(k, 1));
-        }
-        add(x.never());
-        add(x.century(7, 6, 0));
-        add(x.century(7, 6, 1));
-        return h;
+        due("a finding is not in it", x.digest(), DigestByCalls.of(x));
     }
 }

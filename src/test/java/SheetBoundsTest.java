@@ -4,7 +4,7 @@ import java.util.function.ToLongFunction;
 
 /** Promises 30 to 37: each sentence that names a boundary case. */
 public final class SheetBoundsTest {
-    private static final int NONE = Cases.NONE, BAD = Cases.BAD, LEAST = Cases.LEAST, MOST = Cases.MOST;
+    private static final int BAD = Cases.BAD, LEAST = Cases.LEAST, MOST = Cases.MOST;
     private static final int NULL = Cases.NULL, INDEX = Cases.INDEX, CAST = Cases.CAST, STORE = Cases.STORE, SIZE = Cases.SIZE;
     private static final Cases c = new Cases(30, 37);
 
@@ -493,37 +493,6 @@ public final class SheetBoundsTest {
         c.due("count(8)", x.count(8), 5);
     }
 
-    private static long h;
-    private static void add(long v) { h = 31 * h + v; }
-
-    /** As promise 37 says, by the other calls. */
-    private static long byCalls(WrackDeeds x) {
-        h = 17;
-        for (int k = 0; k <= 7; k++) add(x.count(k));
-        for (int k = 0; k < 3; k++) add(x.fault(k));
-        for (int k = 0; k < 20; k++) add(x.tide(k));
-        int strands = x.count(0);
-        for (int s = 0; s < strands; s++) addStrand(x, s);
-        for (int k = 0; k < 8; k++) {
-            add(x.route(k));
-            add(x.reads(k));
-        }
-        for (int v : new int[] {x.voids(5), x.voids(19), x.forged(), x.tangled(0), x.tangled(1), x.tour(0), x.tour(1), x.tour(2), x.tour(3)}) add(v);
-        for (int v : new int[] {x.hang(0, 0), x.hang(0, 1), x.hang(1, 0), x.hang(1, 1), x.hang(2, 0), x.hang(2, 1)}) add(v);
-        for (int v : new int[] {x.never(), x.century(7, 6, 0), x.century(7, 6, 1)}) add(v);
-        return h;
-    }
-
-    private static void addStrand(WrackDeeds x, int s) {
-        for (int k = 0; k <= 8; k++) add(x.strand(s, k));
-        for (int hour : new int[] {0, 6, 12, 19}) {
-            for (int v : new int[] {x.state(hour, s, 0), x.state(hour, s, 1), x.says(hour, s, 0), x.fill(hour, s, NONE), x.fill(hour, s, 0)}) add(v);
-        }
-        for (int v : new int[] {x.deed(s, 0), x.deed(s, 1), x.save(s, NONE), x.save(s, 0), x.was(s, 0), x.was(s, 1), x.ask(s)}) add(v);
-        add(x.risk(5, s, 15, 0));
-        add(x.risk(5, s, 15, 1));
-    }
-
     private static void digest() {
         c.sentence(37, "of nothing: counts 0, no FAULTS, 5 in each HOUR, no STRANDS; as longs that wrap");
         // 31 to the power of 65 is far beyond a long: the lowest 64 bits of what never wraps are due.
@@ -552,26 +521,26 @@ public final class SheetBoundsTest {
     private static void digestIsAsTold() {
         c.sentence(37, "of some");
         WrackDeeds some = Cases.some();
-        c.due("digest()", some.digest(), byCalls(some));
+        c.due("digest()", some.digest(), DigestByCalls.of(some));
         c.sentence(37, "of EVENTS and SEEN, as many as there may be");
         WrackDeeds full = Cases.full();
-        c.due("digest()", full.digest(), byCalls(full));
+        c.due("digest()", full.digest(), DigestByCalls.of(full));
         c.sentence(37, "of eight STRANDS of six BLADDERS, 20 TIDES, a ROUTE of eight");
         WrackDeeds longest = Cases.made(Cases.LONGEST, "01234567899876543210", "abcdefgh");
         longest.event(1, 13, 2, 0);
-        c.due("digest()", longest.digest(), byCalls(longest));
+        c.due("digest()", longest.digest(), DigestByCalls.of(longest));
         // By seed 7 the sixth event lifts strand 1 to where it can be read, the seventh is a heron on it.
         c.sentence(37, "voids(5), risk(5, it, 15), century(7, 6): not of the HOUR or number ahead or behind");
         WrackDeeds just = Cases.made("5wab;3wcc", "999999" + Cases.times("6", 14), "abb");
         int[][] herons = {{5, 1}, {6, 0}, {15, 0}, {16, 0}};
         for (int[] hourAndStrand : herons) just.event(1, hourAndStrand[0], hourAndStrand[1], 0);
-        c.due("digest()", just.digest(), byCalls(just));
+        c.due("digest()", just.digest(), DigestByCalls.of(just));
         c.due("century(7, 6, 1) is not century(7, 5, 1)", just.century(7, 6, 1) == just.century(7, 5, 1) ? 1 : 0, 0);
         c.due("century(7, 6, 1) is not century(7, 7, 1)", just.century(7, 6, 1) == just.century(7, 7, 1) ? 1 : 0, 0);
         c.sentence(37, "with FAULTS");
         WrackDeeds faults = Cases.made("5wa;4w", "12x", "abi");
         faults.event(1, 0, 0, 0);
         faults.seen(0, 0, 3);
-        c.due("digest()", faults.digest(), byCalls(faults));
+        c.due("digest()", faults.digest(), DigestByCalls.of(faults));
     }
 }
