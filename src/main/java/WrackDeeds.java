@@ -1022,11 +1022,6 @@ public final class WrackDeeds {
             }
         }
 
-        /** When a clerk reads a strand who sets out first of all for it. */
-        int firstRead(int strand) {
-            return nextRead(strand, 0, hangings[strand].highs[0]);
-        }
-
         /** When a clerk reads a strand who sets out for it in an hour, so high; NONE. */
         int nextRead(int strand, int hour, int high) {
             if (hour < 0 || hour >= HOURS) {
@@ -1050,7 +1045,7 @@ public final class WrackDeeds {
 
         void go(Shore shore, int strandsThere, Text route) {
             size = 0;
-            int hour = 0;
+            int setOut = 0;
             int high = 0;
             int stops = Math.min(route.sound(), MOST);
             for (int i = 0; i < stops; i++) {
@@ -1058,12 +1053,14 @@ public final class WrackDeeds {
                 if (!within(strand, strandsThere)) {
                     return;
                 }
-                hour = i == 0 ? shore.firstRead(strand) : shore.nextRead(strand, hour + 1, high);
+                Hanging hanging = shore.hangings[strand];
+                int hour = shore.nextRead(strand, setOut, i == 0 ? hanging.highs[0] : high);
                 if (hour == NONE) {
                     return;
                 }
                 hours[i] = hour;
-                high = shore.hangings[strand].highs[hour];
+                high = hanging.highs[hour];
+                setOut = hour + 1;
                 size++;
             }
         }
@@ -1089,7 +1086,7 @@ public final class WrackDeeds {
             strands = Math.min(strandsThere, MOST);
             Arrays.fill(met, 0);
             for (int s = 0; s < strands; s++) {
-                visit(this, shore, s, shore.firstRead(s), 0, 0);
+                visit(this, shore, s, shore.nextRead(s, 0, shore.hangings[s].highs[0]), 0, 0);
             }
         }
 

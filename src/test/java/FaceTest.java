@@ -2,13 +2,11 @@ import java.lang.reflect.Constructor;
 import java.lang.reflect.Field;
 import java.lang.reflect.Method;
 import java.lang.reflect.Modifier;
-import java.nio.file.Files;
-import java.nio.file.Path;
 import java.util.Arrays;
 import java.util.Set;
 import java.util.TreeSet;
 
-/** The document's face, and what a program can see of the rules in LANGUAGE.md. */
+/** The document's face, and rule 1 of LANGUAGE.md: what is public, private, inside. The other rules: LanguageTest. */
 public final class FaceTest {
     private static final String[] FACE = {
         "int type(int, int)", "int wipe(int)", "int undo(int)", "int fault(int)", "int strand(int, int)", "int tide(int)",
@@ -26,8 +24,7 @@ public final class FaceTest {
         methods();
         members();
         inside();
-        source(Files.readString(Path.of("src/main/java/WrackDeeds.java")));
-        System.out.println(wrong == 0 ? "the face and the rules are kept" : wrong + " breaches");
+        System.out.println(wrong == 0 ? "the face is kept" : wrong + " breaches");
         if (wrong != 0) System.exit(1);
     }
 
@@ -50,7 +47,6 @@ public final class FaceTest {
         look(has.equals(due), "the methods are " + due + ", not " + has);
         for (Class<?> c : all()) for (Method m : c.getDeclaredMethods()) {
             look(c == WrackDeeds.class && Modifier.isPublic(m.getModifiers()) || !names.contains(m.getName()), m + " bears a name of its own");
-            look(m.getParameterCount() <= 7, m + " takes at most seven");
         }
     }
 
@@ -77,33 +73,9 @@ public final class FaceTest {
     }
 
     private static void inside() {
-        look(all().length <= 12, "at most twelve classes");
         for (Class<?> c : all()) {
-            int fields = 0;
-            for (Field f : c.getDeclaredFields()) {
-                if (Modifier.isStatic(f.getModifiers())) look(Modifier.isFinal(f.getModifiers()), f + " is final");
-                else fields++;
-            }
-            look(fields <= 20, c + " has at most twenty fields");
             if (c == WrackDeeds.class) continue;
             look(Modifier.isStatic(c.getModifiers()) && !Modifier.isPublic(c.getModifiers()), c + " is static and not public");
-        }
-    }
-
-    private static void source(String all) {
-        String code = all.replaceAll("(?s)/\\*.*?\\*/", "").replaceAll("//[^\n]*", "");
-        for (String word : new String[] {"throw", "throws", "try", "catch", "finally", "synchronized", "assert", "package", "var", "Object"}) {
-            look(!code.matches("(?s).*\\b" + word + "\\b.*"), "no " + word);
-        }
-        look(!code.contains("->") && !code.contains("::"), "no lambda, no method reference");
-        look(code.replaceAll("(?s)[^\n]*\\bimport java\\.util\\.Arrays;", "").indexOf("import") < 0, "no import but Arrays");
-        String library = code.replaceAll("\\b(Math\\.(min|max|abs)|Integer\\.bitCount|Arrays\\.fill|System\\.arraycopy|java\\.util\\.Arrays)\\b", "");
-        look(!library.matches("(?s).*\\b(Math|Integer|Long|Short|Byte|Character|Arrays|System|String|List|java)\\..*"), "of the library only what LANGUAGE.md lists and the class uses so far");
-        int begun = -1, line = 0;
-        for (String s : all.split("\n")) {
-            line++;
-            if (s.matches("( {4}| {8})\\S.*\\) \\{")) begun = line;
-            if (s.matches("( {4}| {8})\\}") && begun > 0) look(line - begun <= 60, "the method that begins in line " + begun + " is short");
         }
     }
 }
