@@ -452,6 +452,8 @@ public final class HourBoundsTest {
         readsOf(with(made("5wa;3wb", "", "ab"), 2, 3, 1, 4), 0);
         c.sentence(18, "then he is so HIGH: also where the STRAND behind him goes off");
         readsOf(with(made("5wa;5wb", "", "ab"), 2, 1, 0, 3), 0, 1);
+        c.sentence(18, "then he is so HIGH: as the STRAND was when he came, not as told");
+        readsOf(with(made("5wa;5wb;3wc", "", "abc"), 2, 1, 1, 3), 0, 3, 4);
         c.sentence(18, "he waits until it is just so HIGH again");
         WrackDeeds again = with(made("5wa;3wb", "", "ab"), 2, 2, 1, 4);
         again.event(2, 17, 1, 3);

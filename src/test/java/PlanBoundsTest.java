@@ -51,6 +51,8 @@ public final class PlanBoundsTest {
         tourOf(with(made("5wa", "", "a"), 1, 0, 0, 0), NONE);
         c.sentence(19, "one, in HOUR 0");
         tourOf(made("5wa", "", ""), 0, 0);
+        c.sentence(19, "he begins in HOUR 0, as HIGH as the first STRAND is then: no later STORM counts");
+        tourOf(with(made("5wa", "", ""), 2, 1, 0, 4), 0, 0);
         c.sentence(19, "one, in HOUR 19");
         tourOf(made("9wa", Cases.times("0", 19) + "9", ""), 19, 0);
         c.sentence(19, "two, in HOURS 18 and 19, of three");
